@@ -199,7 +199,8 @@ public final class ClockDominoes {
         history.save(now);
         int done = 0;
         int place = 0;
-        while (done < TEXT_LIMIT && place < text.length && doPart(place)) {
+        while (done < TEXT_LIMIT && place < text.length && canDoPart(place)) {
+            doPart(place);
             done++;
             place = text.nextPart(place);
         }
@@ -555,50 +556,32 @@ public final class ClockDominoes {
         return ((long) (exponent + bias) << fraction) + below;
     }
 
-    // False, and nothing is changed, if the part would throw an exception.
-    private boolean doPart(int place) {
+    private boolean canDoPart(int place) {
         switch (text.codeAt(place)) {
             case 'l':
-                return doLay(text.tileAt(place + 1), text.codeAt(place + 3) == '<' ? LEFT : RIGHT);
+                return now.layReason(now.turn, text.tileAt(place + 1), text.endAt(place + 3)) == 0;
             case 'p':
-                return doPass();
-            case 'c':
-                return doClock(text.codeAt(place + 1) == '+' ? 1 : 0);
+                return now.passReason(now.turn) == 0;
             default:
-                return doTicks(text.numberAt(place + 1));
+                return now.phase == ON;
         }
     }
 
-    private boolean doLay(int tile, int end) {
-        boolean can = now.layReason(now.turn, tile, end) == 0;
-        if (can) {
-            now.layTile(now.turn, tile, end);
+    private void doPart(int place) {
+        switch (text.codeAt(place)) {
+            case 'l':
+                now.layTile(now.turn, text.tileAt(place + 1), text.endAt(place + 3));
+                break;
+            case 'p':
+                now.passTurn(now.turn);
+                break;
+            case 'c':
+                now.handClock(text.codeAt(place + 1) == '+' ? 1 : 0);
+                break;
+            default:
+                now.spendTime(text.numberAt(place + 1));
+                break;
         }
-        return can;
-    }
-
-    private boolean doPass() {
-        boolean can = now.passReason(now.turn) == 0;
-        if (can) {
-            now.passTurn(now.turn);
-        }
-        return can;
-    }
-
-    private boolean doClock(int next) {
-        boolean can = now.phase == ON;
-        if (can) {
-            now.handClock(next);
-        }
-        return can;
-    }
-
-    private boolean doTicks(int ticks) {
-        boolean can = now.phase == ON;
-        if (can) {
-            now.spendTime(ticks);
-        }
-        return can;
     }
 
     private int giveTold() {
@@ -700,7 +683,7 @@ public final class ClockDominoes {
         }
 
         static int pips(int tile) {
-            return low(tile) + high(tile);
+            return tile >= 0 && tile < LOW.length && tile < HIGH.length ? LOW[tile] + HIGH[tile] : 0;
         }
 
         static boolean isDouble(int tile) {
@@ -1128,9 +1111,10 @@ public final class ClockDominoes {
         }
     }
 
-    /** The saved states; the tables are made once and used again. */
+    /** The saved states: a ring of tables that are made once and used again. */
     private static final class History {
         private final Table[] saved = new Table[SAVED_LIMIT];
+        private int oldest;
         int count;
 
         History() {
@@ -1140,8 +1124,9 @@ public final class ClockDominoes {
         }
 
         void save(Table state) {
-            if (count >= saved.length) {
-                dropOldest();
+            if (count >= SAVED_LIMIT) {
+                oldest = (oldest + 1) % SAVED_LIMIT;
+                count--;
             }
             Table slot = slotAt(count);
             if (slot != null) {
@@ -1158,17 +1143,9 @@ public final class ClockDominoes {
             }
         }
 
-        private Table slotAt(int place) {
-            return place >= 0 && place < saved.length ? saved[place] : null;
-        }
-
-        private void dropOldest() {
-            Table oldest = saved[0];
-            for (int place = 1; place < saved.length; place++) {
-                saved[place - 1] = saved[place];
-            }
-            saved[saved.length - 1] = oldest;
-            count = saved.length - 1;
+        private Table slotAt(int age) {
+            int place = (oldest + age) % SAVED_LIMIT;
+            return age >= 0 && place >= 0 && place < saved.length ? saved[place] : null;
         }
     }
 
@@ -1213,9 +1190,13 @@ public final class ClockDominoes {
             return codeAt(place) - '0';
         }
 
-        // These three are asked only of a text that has no error.
+        // From here on to nextPart: asked only of a text that has no error.
         int tileAt(int place) {
             return Tile.number(digitAt(place), digitAt(place + 1));
+        }
+
+        int endAt(int place) {
+            return codeAt(place) == '<' ? LEFT : RIGHT;
         }
 
         int numberAt(int place) {
@@ -1405,7 +1386,7 @@ public final class ClockDominoes {
             for (int place = 0; place < ways.length; place++) {
                 ways[place] = 0;
             }
-            ways[0] = 1;
+            putWays(0, 0, 1);
             int given = 0;
             for (int tile = 0; tile < kinds.length; tile++) {
                 if (kinds[tile] != NONE) {
