@@ -19,6 +19,7 @@ public final class ClockDominoes {
     private static final int RIGHT = 1;
 
     private static final int GAME = 0;
+    private static final int GIFTS = 1;
 
     private static final int LAST_DEAL = 4095;
     private static final int FIRST_TIME = 20;
@@ -189,11 +190,11 @@ public final class ClockDominoes {
         if (!isSwitch(what)) {
             throw new IllegalArgumentException("what is not 0 or 1");
         }
-        return what == GAME ? text.firstWrongOfGame() : text.firstWrongOfTiles();
+        return text.firstWrong(what);
     }
 
     public int play() throws IllegalArgumentException {
-        if (!text.isWholeGame()) {
+        if (!text.isWhole(GAME)) {
             throw new IllegalArgumentException("the buffer is not a complete game");
         }
         history.save(now);
@@ -209,7 +210,7 @@ public final class ClockDominoes {
     }
 
     public int giveAll() throws IllegalArgumentException {
-        if (!text.isWholeTiles()) {
+        if (!text.isWhole(GIFTS)) {
             throw new IllegalArgumentException("the buffer is not complete tiles");
         }
         history.save(now);
@@ -1212,10 +1213,10 @@ public final class ClockDominoes {
             return place + 1;
         }
 
-        int firstWrongOfGame() {
+        int firstWrong(int what) {
             int state = PART;
             for (int place = 0; place < length; place++) {
-                state = nextOfGame(state, codeAt(place));
+                state = next(what, state, codeAt(place));
                 if (state == WRONG) {
                     return place;
                 }
@@ -1223,31 +1224,16 @@ public final class ClockDominoes {
             return length;
         }
 
-        boolean isWholeGame() {
+        boolean isWhole(int what) {
             int state = PART;
             for (int place = 0; place < length; place++) {
-                state = nextOfGame(state, codeAt(place));
+                state = next(what, state, codeAt(place));
             }
             return state == PART_END || state == MORE_TICKS;
         }
 
-        int firstWrongOfTiles() {
-            int state = PART;
-            for (int place = 0; place < length; place++) {
-                state = nextOfTiles(state, codeAt(place));
-                if (state == WRONG) {
-                    return place;
-                }
-            }
-            return length;
-        }
-
-        boolean isWholeTiles() {
-            int state = PART;
-            for (int place = 0; place < length; place++) {
-                state = nextOfTiles(state, codeAt(place));
-            }
-            return state == PART_END;
+        private static int next(int what, int state, int code) {
+            return what == GAME ? nextOfGame(state, code) : nextOfTiles(state, code);
         }
 
         private static int nextOfGame(int state, int code) {
@@ -1397,18 +1383,17 @@ public final class ClockDominoes {
             return waysOf(Rows.at(needs, 0), Rows.at(needs, 1));
         }
 
-        // The ways are kept by the tiles of the first and the second one; the third one has the rest.
-        // Downwards, so that what is still to be read is of one tile less.
+        // The ways are kept by the tiles of the first and the second one; the third one has the rest, and
+        // never more than it needs. Downwards, so that what is still to be read is of one tile less.
         private void giveOne(int kind, int given) {
-            for (int one = Rows.at(needs, 0); one >= 0; one--) {
-                for (int two = Rows.at(needs, 1); two >= 0; two--) {
-                    int three = given - one - two;
+            for (int one = Math.min(Rows.at(needs, 0), given); one >= 0; one--) {
+                int rest = given - one;
+                int least = Math.max(0, rest - Rows.at(needs, 2));
+                for (int two = Math.min(Rows.at(needs, 1), rest); two >= least; two--) {
                     long sum = 0;
-                    if (three >= 0 && three <= Rows.at(needs, 2)) {
-                        sum += (kind & 1) != 0 ? waysOf(one - 1, two) : 0;
-                        sum += (kind & 2) != 0 ? waysOf(one, two - 1) : 0;
-                        sum += (kind & 4) != 0 ? waysOf(one, two) : 0;
-                    }
+                    sum += (kind & 1) != 0 ? waysOf(one - 1, two) : 0;
+                    sum += (kind & 2) != 0 ? waysOf(one, two - 1) : 0;
+                    sum += (kind & 4) != 0 ? waysOf(one, two) : 0;
                     putWays(one, two, sum);
                 }
             }
@@ -1427,35 +1412,32 @@ public final class ClockDominoes {
             }
         }
 
-        // Kinds of one hand leave no choice; those of two are tried in all ways; the kind of all
-        // three takes what each hand needs then.
+        // Kinds of one hand leave no choice; those of two are tried in all ways; of the kind of all three
+        // the first and the second one take what they still need, and what is left is the need of the third.
         long byKinds() {
             if (Rows.at(sizes, 0) > 0) {
                 return 0;
             }
             int one = Rows.at(needs, 0) - Rows.at(sizes, 1);
             int two = Rows.at(needs, 1) - Rows.at(sizes, 2);
-            int three = Rows.at(needs, 2) - Rows.at(sizes, 4);
             int shared = Rows.at(sizes, 3);
             long sum = 0;
             for (int taken = 0; taken <= shared && taken <= one; taken++) {
-                sum += choose(shared, taken) * byTwoKinds(one - taken, two - shared + taken, three);
+                sum += choose(shared, taken) * byTwoKinds(one - taken, two - shared + taken);
             }
             return sum;
         }
 
-        private long byTwoKinds(int one, int two, int three) {
+        private long byTwoKinds(int one, int two) {
             int first = Rows.at(sizes, 5);
             int second = Rows.at(sizes, 6);
             int all = Rows.at(sizes, 7);
             long sum = 0;
             for (int mine = 0; mine <= first && mine <= one; mine++) {
                 for (int yours = 0; yours <= second && yours <= two; yours++) {
-                    int last = three - (first - mine) - (second - yours);
-                    if (last >= 0) {
-                        long shares = choose(first, mine) * choose(second, yours);
-                        sum += shares * choose(all, one - mine) * choose(all - one + mine, two - yours);
-                    }
+                    long shares = choose(first, mine) * choose(second, yours);
+                    int left = all - one + mine;
+                    sum += shares * choose(all, one - mine) * choose(left, two - yours);
                 }
             }
             return sum;
