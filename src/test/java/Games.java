@@ -28,12 +28,17 @@ final class Games {
         return x.play();
     }
 
+    /** All tiles are given by two texts; no round is on. */
+    static ClockDominoes dealt(String one, String two) {
+        ClockDominoes x = new ClockDominoes();
+        given(x, one);
+        given(x, two);
+        return x;
+    }
+
     /** The tiles are given by rising values; no round is on. */
     static ClockDominoes sorted() {
-        ClockDominoes x = new ClockDominoes();
-        given(x, ZERO_AND_ONE);
-        given(x, TWO_AND_THREE);
-        return x;
+        return dealt(ZERO_AND_ONE, TWO_AND_THREE);
     }
 
     static ClockDominoes sortedRound(int hand) {
@@ -44,9 +49,7 @@ final class Games {
 
     /** A round of the hand 0 with a row, in which the others have no time. */
     static ClockDominoes rowRound() {
-        ClockDominoes x = new ClockDominoes();
-        given(x, ROW_AND_REST);
-        given(x, REST);
+        ClockDominoes x = dealt(ROW_AND_REST, REST);
         x.begin(0);
         played(x, "l00>;t99;p;t99;p;t99;p");
         return x;

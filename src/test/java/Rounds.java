@@ -1,5 +1,16 @@
-/** Rounds that are played by simple rules. */
+import java.util.ArrayList;
+import java.util.HashMap;
+import java.util.List;
+import java.util.Map;
+
+/**
+ * Rounds that are played by simple rules. The plain model finds the calls, so that an object of the class is asked
+ * for nothing on its way: it is used for at most 512 calls.
+ */
 final class Rounds {
+    private static final Map<Integer, List<int[]>> MOVES = new HashMap<>();
+    private static final int[] CLOCK = {};
+
     private Rounds() {
     }
 
@@ -9,8 +20,13 @@ final class Rounds {
         x.deal(number);
         x.set(60);
         x.begin(number % 4);
-        for (int step = 0; step < 200 && x.count(0) == 1 && held(x) > tiles; step++) {
-            layOrPass(x, (number + step) % 2 == 0);
+        int left = 28;
+        for (int[] move : MOVES.computeIfAbsent(number, Rounds::movesOf)) {
+            if (left <= tiles) {
+                return x;
+            }
+            left -= move.length == 3 ? 1 : 0;
+            go(x, move);
         }
         return x;
     }
@@ -25,18 +41,45 @@ final class Rounds {
         }
     }
 
-    private static void layOrPass(ClockDominoes x, boolean fromTop) {
-        int hand = x.count(1);
-        makeNeutral(x);
+    /** A move: nothing (the clock goes on), a hand that passes, or a hand, a tile and an end. */
+    private static void go(ClockDominoes x, int[] move) {
+        if (move.length == 0) {
+            x.clock(1);
+        } else if (move.length == 1) {
+            x.pass(move[0]);
+        } else {
+            x.lay(move[0], move[1], move[2]);
+        }
+    }
+
+    private static List<int[]> movesOf(int number) {
+        PlainModel guide = new PlainModel();
+        guide.deal(number);
+        guide.set(60);
+        guide.begin(number % 4);
+        List<int[]> moves = new ArrayList<>();
+        for (int step = 0; step < 200 && guide.count(0) == 1; step++) {
+            while (guide.count(15) == 0) {
+                guide.clock(1);
+                moves.add(CLOCK);
+            }
+            moves.add(layOrPass(guide, (number + step) % 2 == 0));
+        }
+        return moves;
+    }
+
+    private static int[] layOrPass(PlainModel guide, boolean fromTop) {
+        int hand = guide.count(1);
         for (int each = 0; each < 28; each++) {
             int tile = fromTop ? 27 - each : each;
             for (int end = 0; end <= 1; end++) {
-                if (x.why(hand, tile, end) == 0) {
-                    x.lay(hand, tile, end);
-                    return;
+                if (guide.why(hand, tile, end) == 0) {
+                    guide.lay(hand, tile, end);
+                    return new int[] {hand, tile, end};
                 }
             }
         }
-        x.pass(hand);
+        guide.pass(hand);
+        return new int[] {hand};
     }
 }
