@@ -166,34 +166,44 @@ public final class KnownEdgesTests {
      * and each hand has in each deal as many tiles as it has.
      */
     private static void thereIsAtLeastOneDeal() {
-        for (Way way : Way.all()) {
-            ClockDominoes x = way.real();
-            for (int looker = 0; looker < 4; looker++) {
-                long deals = x.deals(looker, 0);
-                CHECKS.same("25: " + way.name() + ", at least one", deals >= 1, true);
-                CHECKS.same("25: " + way.name() + ", told both ways", x.deals(looker, 1), deals);
-                sumsOf(way.name(), x, looker, deals);
+        for (int looker = 0; looker < 4; looker++) {
+            for (Way way : Way.all()) {
+                sumsOf(way.name(), way.real(), looker);
             }
         }
+        int sure = 0;
+        for (int number = 0; number < 400; number++) {
+            ClockDominoes x = Rounds.untilFew(number, 4 + number % 17);
+            sure += sumsOf("deal " + number, x, number % 4) > x.hand(number % 4, 0) ? 1 : 0;
+        }
+        CHECKS.same("27: sure tiles of other hands were seen", sure > 30, true);
     }
 
-    private static void sumsOf(String name, ClockDominoes x, int looker, long deals) {
+    /** Tells how many tiles are sure in all hands. */
+    private static int sumsOf(String name, ClockDominoes x, int looker) {
+        long deals = x.deals(looker, 0);
+        CHECKS.same("25: " + name + ", at least one", deals >= 1, true);
+        CHECKS.same("25: " + name + ", told both ways", x.deals(looker, 1), deals);
         long[] ofHands = new long[4];
+        int[] sure = new int[4];
         for (int tile = 0; tile < 28; tile++) {
             long sum = 0;
+            int owner = x.tile(tile, 3);
             for (int hand = 0; hand < 4; hand++) {
                 int having = x.having(looker, hand, tile);
                 sum += having;
                 ofHands[hand] += having;
+                sure[hand] += having == deals ? 1 : 0;
                 CHECKS.same("28: " + name, x.likely(looker, hand, tile), (double) having / deals);
+                CHECKS.same("26: " + name + ", the deal that is so", hand != owner || having > 0, true);
             }
-            CHECKS.same("26: " + name + ", at some hand", sum, x.tile(tile, 3) < 4 ? deals : 0);
-            int owner = x.tile(tile, 3);
-            CHECKS.same("26: " + name + ", the deal that is so", owner > 3 || x.having(looker, owner, tile) > 0, true);
+            CHECKS.same("26: " + name + ", at some hand", sum, owner < 4 ? deals : 0);
         }
         for (int hand = 0; hand < 4; hand++) {
             CHECKS.same("26: " + name + ", tiles of " + hand, ofHands[hand], deals * x.hand(hand, 0));
+            CHECKS.same("27: " + name + ", sure at " + hand, x.sure(looker, hand), sure[hand]);
         }
+        return sure[0] + sure[1] + sure[2] + sure[3];
     }
 
     /** "This is told only if the hands have at most 9 tiles together": ten, nine, four. */

@@ -21,6 +21,7 @@ public final class RoundEdgesTests {
         openSumAboveZeroAndAMultiple();
         lastTileBringsAFifth();
         lastTileBringsBoth();
+        lastTileBringsLittle();
         fourPassesEnd();
         fifthOfTheDifference();
         handsAndChainStay();
@@ -337,6 +338,30 @@ public final class RoundEdgesTests {
     /** The points of the open sum come besides: 145 pips of the others, the open sum 5. */
     private static void lastTileBringsBoth() {
         lastOf("00,01,11,12,22,23,35", 20, 30);
+    }
+
+    private static void littleOf(int number, int first, int pips, int sum, int gain) {
+        ClockDominoes x = Rounds.heaviest(number, first);
+        int hand = x.count(16);
+        int tile = x.chain(0, 3) == x.count(3) ? x.chain(0, 0) : x.chain(x.count(3) - 1, 0);
+        int end = x.tile(tile, 4) == 0 ? 0 : 1;
+        String name = "6: deal " + number + ", " + pips + " pips of the others";
+        CHECKS.same(name, x.hand(0, 1) + x.hand(1, 1) + x.hand(2, 1) + x.hand(3, 1), pips);
+        CHECKS.same(name + ", the open sum", x.count(6), sum);
+        CHECKS.same(name + ", ended by an empty hand", x.hand(hand, 0) + 10 * x.count(0), 20);
+        int points = x.count(7 + hand % 2);
+        x.undo();
+        CHECKS.due(name + ", the last lay", () -> x.lay(hand, tile, end), gain);
+        CHECKS.same(name + ", the points of the team", x.count(7 + hand % 2), points);
+    }
+
+    /** Fewer than five pips of the others are no point, five are one; a point of the open sum comes besides. */
+    private static void lastTileBringsLittle() {
+        littleOf(1000, 1, 3, 3, 0);
+        littleOf(1027, 3, 4, 2, 0);
+        littleOf(45, 2, 5, 1, 1);
+        littleOf(1077, 3, 3, 5, 1);
+        littleOf(57, 2, 5, 5, 2);
     }
 
     /** "If all four hands passed one behind the other": three and a lay do not end the round. */

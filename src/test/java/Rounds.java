@@ -31,6 +31,26 @@ final class Rounds {
         return x;
     }
 
+    /** A round of the deal, up to its end, in which each hand lays its tile with the most pips. */
+    static ClockDominoes heaviest(int number, int first) {
+        PlainModel guide = new PlainModel();
+        ClockDominoes x = new ClockDominoes();
+        guide.deal(number);
+        x.deal(number);
+        guide.set(60);
+        x.set(60);
+        guide.begin(first);
+        x.begin(first);
+        for (int step = 0; step < 200 && guide.count(0) == 1; step++) {
+            while (guide.count(15) == 0) {
+                guide.clock(1);
+                x.clock(1);
+            }
+            go(x, layHeaviest(guide));
+        }
+        return x;
+    }
+
     static int held(ClockDominoes x) {
         return x.hand(0, 0) + x.hand(1, 0) + x.hand(2, 0) + x.hand(3, 0);
     }
@@ -81,5 +101,26 @@ final class Rounds {
         }
         guide.pass(hand);
         return new int[] {hand};
+    }
+
+    private static int[] layHeaviest(PlainModel guide) {
+        int hand = guide.count(1);
+        int[] best = {hand};
+        int most = -1;
+        for (int option = 0; option < 56; option++) {
+            int tile = 27 - option / 2;
+            int end = option % 2;
+            int weight = 2 * guide.tile(tile, 2) + 1 - end;
+            if (guide.why(hand, tile, end) == 0 && weight > most) {
+                most = weight;
+                best = new int[] {hand, tile, end};
+            }
+        }
+        if (best.length == 1) {
+            guide.pass(hand);
+        } else {
+            guide.lay(hand, best[1], best[2]);
+        }
+        return best;
     }
 }

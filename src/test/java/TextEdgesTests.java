@@ -24,6 +24,8 @@ public final class TextEdgesTests {
         wholeTextsAlone();
         sixtyCharactersArePlayed();
         ticksAreOneTo99();
+        clockGoesRoundInATextToo();
+        endsOfALayInAText();
         playUpToTheFirstThatThrows();
         sixtyCharactersAreGiven();
         giveUpToTheFirstThatThrows();
@@ -192,6 +194,31 @@ public final class TextEdgesTests {
         for (String wrong : new String[] {"t", "t0", "t00", "t01", "t100", "t-1", "t+1"}) {
             whole(0, wrong, false);
         }
+    }
+
+    /** "The clock is handed to the next hand, or to the one before": from 3 to 0, and from 0 to 3. */
+    private static void clockGoesRoundInATextToo() {
+        ClockDominoes x = Games.sortedRound(2);
+        CHECKS.same("14: held by 3", x.count(2), 3);
+        Games.played(x, "c+");
+        CHECKS.same("14: on to 0", x.count(2), 0);
+        Games.played(x, "c-");
+        CHECKS.same("14: back to 3", x.count(2), 3);
+        Games.played(x, "c+;c+;c-;c-;c-;c-");
+        CHECKS.same("14: two on, four back", x.count(2), 1);
+    }
+
+    /** "The hand whose turn it is lays it at the left end or at the right end", the hand 3 and then the hand 0. */
+    private static void endsOfALayInAText() {
+        ClockDominoes x = Games.sortedRound(3);
+        CHECKS.same("14: 3, then 0, at the left", Games.played(x, "l36<;c+;l03<"), 3);
+        CHECKS.same("14: it lies ahead", x.tile(3, 4), 0);
+        CHECKS.same("14: laid by 0", x.tile(3, 5), 0);
+        x.undo();
+        CHECKS.same("14: 3, then 0, at the right", Games.played(x, "l36<;c+;l06>"), 3);
+        CHECKS.same("14: it lies behind", x.tile(6, 4), 1);
+        x.undo();
+        CHECKS.same("14: it does not fit the right end", Games.played(x, "l36<;c+;l03>"), 2);
     }
 
     /** "Part by part, up to the first one that would throw": none, some, all; saved as one call, also if none. */
