@@ -160,7 +160,7 @@ public final class KnowledgeTests {
             if (x.count(0) == 1) {
                 seen++;
                 for (int looker = 0; looker < 4; looker++) {
-                    compareEvery(x, looker);
+                    compareEvery(Rounds.untilFew(number, 12), looker);
                 }
             }
         }
@@ -169,15 +169,19 @@ public final class KnowledgeTests {
 
     private static void compareEvery(ClockDominoes x, int looker) {
         List<Integer> secret = new ArrayList<>();
+        int[] values = new int[28];
         for (int tile = 0; tile < 28; tile++) {
-            if (x.tile(tile, 3) < 4 && x.tile(tile, 3) != looker) {
+            values[tile] = 1 << x.tile(tile, 0) | 1 << x.tile(tile, 1);
+            int place = x.tile(tile, 3);
+            if (place < 4 && place != looker) {
                 secret.add(tile);
             }
         }
         int[][] had = new int[4][28];
         int[] free = {x.hand(0, 0), x.hand(1, 0), x.hand(2, 0), x.hand(3, 0)};
+        int[] lacks = {x.hand(0, 3), x.hand(1, 3), x.hand(2, 3), x.hand(3, 3)};
         free[looker] = 0;
-        int all = make(x, secret, 0, free, new int[secret.size()], had);
+        int all = make(values, lacks, secret, free, new ArrayList<>(), had);
         dealsOf("made", x, looker, all);
         for (int hand = 0; hand < 4; hand++) {
             int sure = 0;
@@ -190,21 +194,22 @@ public final class KnowledgeTests {
         }
     }
 
-    private static int make(ClockDominoes x, List<Integer> secret, int from, int[] free, int[] owners, int[][] had) {
+    private static int make(
+            int[] values, int[] lacks, List<Integer> secret, int[] free, List<Integer> owners, int[][] had) {
+        int from = owners.size();
         if (from == secret.size()) {
             for (int place = 0; place < from; place++) {
-                had[owners[place]][secret.get(place)]++;
+                had[owners.get(place)][secret.get(place)]++;
             }
             return 1;
         }
         int sum = 0;
-        int tile = secret.get(from);
-        int values = 1 << x.tile(tile, 0) | 1 << x.tile(tile, 1);
         for (int hand = 0; hand < 4; hand++) {
-            if (free[hand] > 0 && (x.hand(hand, 3) & values) == 0) {
+            if (free[hand] > 0 && (lacks[hand] & values[secret.get(from)]) == 0) {
                 free[hand]--;
-                owners[from] = hand;
-                sum += make(x, secret, from + 1, free, owners, had);
+                owners.add(hand);
+                sum += make(values, lacks, secret, free, owners, had);
+                owners.remove(from);
                 free[hand]++;
             }
         }

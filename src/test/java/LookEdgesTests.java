@@ -295,16 +295,17 @@ public final class LookEdgesTests {
         CHECKS.same("31: gathered", round.meanPips(), 0.0f);
     }
 
-    /** The hash in numbers without a bound; the low 64 bits of it are due. */
-    private static BigInteger hashOf(ClockDominoes x, boolean snapshot, String buffer) {
+    /** The hash in numbers without a bound; the low 64 bits of it are due. Two objects alike are asked. */
+    private static BigInteger hashOf(ClockDominoes x, ClockDominoes alike, boolean snapshot, String buffer) {
         List<Long> values = new ArrayList<>();
         for (int what = 0; what <= 18; what++) {
-            values.add((long) x.count(what));
+            values.add((long) alike.count(what));
         }
         for (int each = 0; each < 28 * 7; each++) {
-            values.add((long) x.tile(each / 7, each % 7));
+            values.add((long) alike.tile(each / 7, each % 7));
         }
-        for (int each = 0; each < 4 * x.count(3); each++) {
+        int size = x.count(3);
+        for (int each = 0; each < 4 * size; each++) {
             values.add((long) x.chain(each / 4, each % 4));
         }
         for (int hand = 0; hand < 4; hand++) {
@@ -348,7 +349,7 @@ public final class LookEdgesTests {
             if (number % 2 == 1) {
                 x.keep();
             }
-            BigInteger hash = hashOf(x, number % 2 == 1, buffer);
+            BigInteger hash = hashOf(x, Rounds.untilFew(number, number % 29), number % 2 == 1, buffer);
             CHECKS.same("32: beyond a long", hash.bitLength() > 64, true);
             CHECKS.same("32: deal " + number, x.digest(), hash.longValue());
             below += x.digest() < 0 ? 1 : 0;

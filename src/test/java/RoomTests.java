@@ -7,16 +7,15 @@ public final class RoomTests {
         (com.sun.management.ThreadMXBean) ManagementFactory.getThreadMXBean();
 
     public static void main(String[] args) {
-        ClockDominoes[] warm = {Games.sortedRound(0), Rounds.untilFew(7, 9), Games.rowEnded()};
         long sum = 0;
-        for (ClockDominoes x : warm) {
+        for (ClockDominoes x : objects()) {
             sum += manyCalls(x);
         }
-        for (ClockDominoes x : warm) {
+        for (ClockDominoes x : objects()) {
             long before = MEMORY.getCurrentThreadAllocatedBytes();
             sum += manyCalls(x);
             long made = MEMORY.getCurrentThreadAllocatedBytes() - before;
-            CHECKS.same("512 calls make nothing (" + made + " bytes)", made < 2000, true);
+            CHECKS.same("270 calls make nothing (" + made + " bytes)", made < 2000, true);
         }
         long before = MEMORY.getCurrentThreadAllocatedBytes();
         ClockDominoes x = new ClockDominoes();
@@ -26,9 +25,13 @@ public final class RoomTests {
         CHECKS.end();
     }
 
+    private static ClockDominoes[] objects() {
+        return new ClockDominoes[] {Games.sortedRound(0), Rounds.untilFew(7, 9), Games.rowEnded()};
+    }
+
     private static long manyCalls(ClockDominoes x) {
         long sum = 0;
-        for (int step = 0; step < 64; step++) {
+        for (int step = 0; step < 30; step++) {
             x.append('p');
             x.set(1 + step % 60);
             sum += x.play();
