@@ -1601,10 +1601,9 @@ public final class ClockDominoes {
     /** The longest chain of the tiles of one hand. */
     private static final class Trail {
         private final int[] tiles = new int[HAND_LIMIT];
-        private int size;
 
         int longest(Table table, int hand) {
-            size = 0;
+            int size = 0;
             for (int tile = 0; tile < TILES && size < HAND_LIMIT; tile++) {
                 if (table.placeOf(tile) == hand) {
                     Rows.put(tiles, size, tile);
@@ -1613,18 +1612,19 @@ public final class ClockDominoes {
             }
             int best = 0;
             for (int value = 0; value < VALUES && best < size; value++) {
-                best = Math.max(best, longestFrom(value, (1 << size) - 1, 0));
+                best = Math.max(best, longestFrom(tiles, value, (1 << size) - 1, size));
             }
             return best;
         }
 
-        private int longestFrom(int value, int rest, int depth) {
+        // Static, as the language asks of a method that calls itself; how many tiles are left bounds the depth.
+        private static int longestFrom(int[] tiles, int value, int rest, int left) {
             int best = 0;
-            for (int place = 0; place < size && depth < size && best < size - depth; place++) {
+            for (int place = 0; place < tiles.length && best < left; place++) {
                 int tile = Rows.at(tiles, place);
                 if ((rest >> place & 1) != 0 && Tile.shows(tile, value)) {
-                    int left = rest & ~(1 << place);
-                    best = Math.max(best, 1 + longestFrom(Tile.pips(tile) - value, left, depth + 1));
+                    int others = rest & ~(1 << place);
+                    best = Math.max(best, 1 + longestFrom(tiles, Tile.pips(tile) - value, others, left - 1));
                 }
             }
             return best;

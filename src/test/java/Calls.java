@@ -1,3 +1,4 @@
+import java.util.Arrays;
 import java.util.List;
 
 /** The methods of the face by their names, with the range of each argument and what is thrown beyond it. */
@@ -26,6 +27,21 @@ final class Calls {
                 }
             }
             return null;
+        }
+    }
+
+    /** One call of a run, that the class and the plain model are asked alike. */
+    record Step(String name, int... arguments) {
+        String real(ClockDominoes x) {
+            return Checks.told(() -> Calls.real(x, name, arguments));
+        }
+
+        String plain(PlainModel x) {
+            return Checks.told(() -> Calls.plain(x, name, arguments));
+        }
+
+        String text() {
+            return name + Arrays.toString(arguments);
         }
     }
 

@@ -1,44 +1,76 @@
-/** Asks the class and the plain model everything that changes nothing, one step beyond each range too. */
+import java.util.List;
+
+/**
+ * Asks the class and the plain model everything that changes nothing, one step beyond each range too. It is more than
+ * an object of the class may be asked, so new ones go the same steps, each used for at most 512 calls.
+ */
 final class EveryLook {
+    static final int MOST_CALLS = 512;
+
     private final Checks checks;
     private final String name;
-    private final ClockDominoes real;
+    private final List<Calls.Step> steps;
     private final PlainModel plain;
+    private ClockDominoes real;
+    private int calls;
+    private String before;
 
-    private EveryLook(Checks checks, String name, ClockDominoes real, PlainModel plain) {
+    private EveryLook(Checks checks, String name, List<Calls.Step> steps, PlainModel plain) {
         this.checks = checks;
         this.name = name;
-        this.real = real;
+        this.steps = steps;
         this.plain = plain;
     }
 
-    static void compare(Checks checks, String name, ClockDominoes real, PlainModel plain) {
-        long before = real.digest();
-        EveryLook looks = new EveryLook(checks, name, real, plain);
+    /** The steps are those that the plain model went too. */
+    static void compare(Checks checks, String name, List<Calls.Step> steps, PlainModel plain) {
+        EveryLook looks = new EveryLook(checks, name, steps, plain);
+        looks.begin();
         looks.looks();
         looks.known();
         looks.wouldBe();
-        checks.same(name + ": the digest behind looks", real.digest(), before);
+        looks.end();
     }
 
-    private void both(String call, Checks.Call mine, Checks.Call due) {
-        checks.same(name + ": " + call, Checks.told(mine), Checks.told(due));
+    private void begin() {
+        real = new ClockDominoes();
+        for (Calls.Step step : steps) {
+            step.real(real);
+        }
+        before = digest();
+        calls = steps.size() + 1;
+    }
+
+    private String digest() {
+        return Checks.told(() -> real.digest());
+    }
+
+    /** The last call of an object: looks have changed nothing. */
+    private void end() {
+        checks.same(name + ": the digest behind looks", digest(), before);
+    }
+
+    private void both(String call, int... arguments) {
+        if (calls == MOST_CALLS - 1) {
+            end();
+            begin();
+        }
+        calls++;
+        Calls.Step look = new Calls.Step(call, arguments);
+        String due = look.plain(plain);
+        checks.same(name + ": " + look.text(), look.real(real), due);
     }
 
     private void looks() {
         for (int what = -1; what <= 19; what++) {
-            int asked = what;
-            both("count(" + what + ")", () -> real.count(asked), () -> plain.count(asked));
+            both("count", what);
         }
         for (int one = -1; one <= 28; one++) {
             for (int what = -1; what <= 11; what++) {
-                int first = one;
-                int asked = what;
-                String arguments = "(" + one + ", " + what + ")";
-                both("tile" + arguments, () -> real.tile(first, asked), () -> plain.tile(first, asked));
-                both("chain" + arguments, () -> real.chain(first, asked), () -> plain.chain(first, asked));
-                both("hand" + arguments, () -> real.hand(first, asked), () -> plain.hand(first, asked));
-                both("tileOf" + arguments, () -> real.tileOf(first, asked), () -> plain.tileOf(first, asked));
+                both("tile", one, what);
+                both("chain", one, what);
+                both("hand", one, what);
+                both("tileOf", one, what);
             }
         }
     }
@@ -46,16 +78,11 @@ final class EveryLook {
     private void known() {
         for (int looker = -1; looker <= 4; looker++) {
             for (int second = -1; second <= 4; second++) {
-                int from = looker;
-                int other = second;
-                String arguments = "(" + looker + ", " + second + ")";
-                both("deals" + arguments, () -> real.deals(from, other), () -> plain.deals(from, other));
-                both("sure" + arguments, () -> real.sure(from, other), () -> plain.sure(from, other));
+                both("deals", looker, second);
+                both("sure", looker, second);
                 for (int tile = -1; tile <= 28; tile++) {
-                    int asked = tile;
-                    String all = "(" + looker + ", " + second + ", " + tile + ")";
-                    both("having" + all, () -> real.having(from, other, asked), () -> plain.having(from, other, asked));
-                    both("likely" + all, () -> real.likely(from, other, asked), () -> plain.likely(from, other, asked));
+                    both("having", looker, second, tile);
+                    both("likely", looker, second, tile);
                 }
             }
         }
@@ -70,21 +97,17 @@ final class EveryLook {
             }
         }
         for (int what = -1; what <= 3; what++) {
-            int asked = what;
-            both("open(" + what + ")", () -> real.open(asked), () -> plain.open(asked));
-            both("firstError(" + what + ")", () -> real.firstError(asked), () -> plain.firstError(asked));
+            both("open", what);
+            both("firstError", what);
         }
-        both("meanPips()", real::meanPips, plain::meanPips);
-        both("digest()", real::digest, plain::digest);
+        both("meanPips");
+        both("digest");
     }
 
     private void wouldBe(int hand, int tile, int end) {
-        String arguments = "(" + hand + ", " + tile + ", " + end + ")";
-        both("why" + arguments, () -> real.why(hand, tile, end), () -> plain.why(hand, tile, end));
+        both("why", hand, tile, end);
         for (int what = -1; what <= 3; what++) {
-            int asked = what;
-            both("ifLaid" + arguments + " of " + what,
-                () -> real.ifLaid(hand, tile, end, asked), () -> plain.ifLaid(hand, tile, end, asked));
+            both("ifLaid", hand, tile, end, what);
         }
     }
 }

@@ -71,6 +71,17 @@ public final class LanguageTests {
         for (Element method : calls.keySet()) {
             int depth = depthOf(method, depths);
             CHECKS.same("rule 11: " + method + " goes " + depth + " deep", depth <= 8, true);
+            recursion(method);
+        }
+    }
+
+    /** "A private static method that calls itself, private methods that call one another." */
+    private void recursion(Element method) {
+        if (reached(method).contains(method)) {
+            Set<Modifier> flags = method.getModifiers();
+            boolean itself = calls.get(method).contains(method);
+            CHECKS.same("rule 8: " + method + " is private", flags.contains(Modifier.PRIVATE), true);
+            CHECKS.same("rule 8: " + method + " is static", !itself || flags.contains(Modifier.STATIC), true);
         }
     }
 

@@ -2,10 +2,15 @@ import java.util.ArrayList;
 import java.util.List;
 import java.util.Random;
 
-/** Long runs of chosen calls on the class and on the plain model, whose answers must be alike. */
+/**
+ * Long runs of chosen calls on the class and on the plain model, whose answers must be alike. An object is used for at
+ * most 512 calls, as the document says: what each one tells of all its state is asked of others that go the same steps.
+ */
 public final class RandomRunsTests {
-    private static final int RUNS = 160;
-    private static final int CALLS = 500;
+    private static final int RUNS = 210;
+    // A step may take some fifty calls more, for a text.
+    private static final int FEWEST_CALLS = 200;
+    private static final int MORE_CALLS = 30;
 
     private final Checks checks;
     private final Random random;
@@ -13,6 +18,8 @@ public final class RandomRunsTests {
     private final PlainModel plain = new PlainModel();
     private final String name;
     private final int eager;
+    private final int most;
+    private final List<Calls.Step> steps = new ArrayList<>();
     private int calls;
     private final int[] ends = new int[3];
 
@@ -21,6 +28,7 @@ public final class RandomRunsTests {
         random = new Random(seed);
         name = "run " + seed;
         eager = 70 + 10 * (seed % 3);
+        most = FEWEST_CALLS + MORE_CALLS * (seed % 7);
     }
 
     public static void main(String[] args) {
@@ -42,7 +50,7 @@ public final class RandomRunsTests {
     }
 
     private void go() {
-        while (calls < CALLS && checks.failures() == 0) {
+        while (calls < most && checks.failures() == 0) {
             boolean on = plain.state().phase == PlainModel.Phase.ON;
             act();
             boolean ended = on && plain.state().phase == PlainModel.Phase.BEHIND;
@@ -51,31 +59,42 @@ public final class RandomRunsTests {
             }
             ends[2] += plain.open(0) != PlainModel.NONE ? 1 : 0;
             if (ended || random.nextInt(6) == 0) {
-                both("digest()", real::digest, plain::digest);
+                look("digest");
             }
             if (ended && random.nextInt(2) == 0 || random.nextInt(90) == 0) {
-                EveryLook.compare(checks, name, real, plain);
+                EveryLook.compare(checks, name, steps, plain);
             }
         }
+        checks.same(name + " takes at most 512 calls (" + calls + ")", calls <= EveryLook.MOST_CALLS, true);
     }
 
-    private void both(String call, Checks.Call mine, Checks.Call due) {
+    private void both(String call, int... arguments) {
+        Calls.Step step = new Calls.Step(call, arguments);
+        steps.add(step);
+        ask(step);
+    }
+
+    private void look(String call, int... arguments) {
+        ask(new Calls.Step(call, arguments));
+    }
+
+    private void ask(Calls.Step step) {
         calls++;
-        String told = Checks.told(due);
-        checks.same(name + ", call " + calls + ": " + call, Checks.told(mine), told);
+        String due = step.plain(plain);
+        checks.same(name + ", call " + calls + ": " + step.text(), step.real(real), due);
     }
 
     private void act() {
         int chance = random.nextInt(1000);
         if (chance < 12) {
-            both("undo()", real::undo, plain::undo);
+            both("undo");
         } else if (chance < 18) {
-            both("keep()", real::keep, plain::keep);
+            both("keep");
         } else if (chance < 23) {
-            both("goBack()", real::goBack, plain::goBack);
+            both("goBack");
         } else if (chance < 33) {
             int time = random.nextInt(4) > 0 ? 1 + random.nextInt(6) : random.nextInt(64) - 1;
-            both("set(" + time + ")", () -> real.set(time), () -> plain.set(time));
+            both("set", time);
         } else if (chance < 45) {
             write(random.nextBoolean() ? gameText() : tilesText());
             send();
@@ -93,16 +112,16 @@ public final class RandomRunsTests {
         int tile = random.nextInt(20) == 0 ? random.nextInt(34) - 3 : tileOfOrAny(hand);
         int end = random.nextInt(20) == 0 ? random.nextInt(5) - 2 : random.nextInt(2);
         switch (random.nextInt(8)) {
-            case 0 -> give(hand, tile);
-            case 1 -> deal(random.nextInt(4100) - 2);
-            case 2 -> begin(hand);
-            case 3 -> lay(hand, tile, end);
-            case 4 -> pass(hand);
-            case 5 -> clock(end);
-            case 6 -> tick(random.nextInt(3) > 0 ? random.nextInt(4) : random.nextInt(103) - 1);
+            case 0 -> both("give", hand, tile);
+            case 1 -> both("deal", random.nextInt(4100) - 2);
+            case 2 -> both("begin", hand);
+            case 3 -> both("lay", hand, tile, end);
+            case 4 -> both("pass", hand);
+            case 5 -> both("clock", end);
+            case 6 -> both("tick", random.nextInt(3) > 0 ? random.nextInt(4) : random.nextInt(103) - 1);
             default -> {
                 if (random.nextInt(4) == 0) {
-                    both("gather()", real::gather, plain::gather);
+                    both("gather");
                 }
             }
         }
@@ -111,14 +130,14 @@ public final class RandomRunsTests {
     private void actOutside() {
         PlainModel.State state = plain.state();
         if (state.phase == PlainModel.Phase.BEHIND) {
-            both("gather()", real::gather, plain::gather);
+            both("gather");
         } else if (state.box.isEmpty()) {
-            begin(random.nextInt(4));
+            both("begin", random.nextInt(4));
         } else if (random.nextInt(3) > 0) {
             List<Integer> box = new ArrayList<>(state.box);
-            give(random.nextInt(4), box.get(random.nextInt(box.size())));
+            both("give", random.nextInt(4), box.get(random.nextInt(box.size())));
         } else {
-            deal(random.nextInt(4096));
+            both("deal", random.nextInt(4096));
         }
     }
 
@@ -137,13 +156,13 @@ public final class RandomRunsTests {
         }
         if (!lays.isEmpty()) {
             int[] lay = lays.get(random.nextInt(lays.size()));
-            lay(hand, lay[0], lay[1]);
+            both("lay", hand, lay[0], lay[1]);
         } else if (plain.hand(hand, 8) == 0) {
-            pass(hand);
+            both("pass", hand);
         } else if (fits) {
-            clock(random.nextInt(2));
+            both("clock", random.nextInt(2));
         } else {
-            tick(1 + random.nextInt(9));
+            both("tick", 1 + random.nextInt(9));
         }
     }
 
@@ -158,52 +177,22 @@ public final class RandomRunsTests {
         return random.nextInt(4) > 0 ? tiles.get(random.nextInt(tiles.size())) : random.nextInt(28);
     }
 
-    private void give(int hand, int tile) {
-        both("give(" + hand + ", " + tile + ")", () -> real.give(hand, tile), () -> plain.give(hand, tile));
-    }
-
-    private void deal(int number) {
-        both("deal(" + number + ")", () -> real.deal(number), () -> plain.deal(number));
-    }
-
-    private void begin(int hand) {
-        both("begin(" + hand + ")", () -> real.begin(hand), () -> plain.begin(hand));
-    }
-
-    private void lay(int hand, int tile, int end) {
-        String call = "lay(" + hand + ", " + tile + ", " + end + ")";
-        both(call, () -> real.lay(hand, tile, end), () -> plain.lay(hand, tile, end));
-    }
-
-    private void pass(int hand) {
-        both("pass(" + hand + ")", () -> real.pass(hand), () -> plain.pass(hand));
-    }
-
-    private void clock(int next) {
-        both("clock(" + next + ")", () -> real.clock(next), () -> plain.clock(next));
-    }
-
-    private void tick(int ticks) {
-        both("tick(" + ticks + ")", () -> real.tick(ticks), () -> plain.tick(ticks));
-    }
-
     // ---- texts
 
     private void write(String text) {
         if (random.nextInt(3) > 0) {
-            both("clearBuffer()", real::clearBuffer, plain::clearBuffer);
+            both("clearBuffer");
         }
         for (int place = 0; place < text.length(); place++) {
-            int code = text.charAt(place);
-            both("append(" + code + ")", () -> real.append(code), () -> plain.append(code));
+            both("append", text.charAt(place));
         }
     }
 
     private void send() {
-        both("firstError(0)", () -> real.firstError(0), () -> plain.firstError(0));
-        both("firstError(1)", () -> real.firstError(1), () -> plain.firstError(1));
-        both("play()", real::play, plain::play);
-        both("giveAll()", real::giveAll, plain::giveAll);
+        look("firstError", 0);
+        look("firstError", 1);
+        both("play");
+        both("giveAll");
     }
 
     private String gameText() {
